@@ -34,7 +34,7 @@ public final class OpticalJukebox {
     private static final int MOST_TIME = 99;
     private static final int MOST_REQUESTS = 16;
     private static final int MOST_EDITS = 16;
-    /** 20 files of at most 14 bytes: "19:9,299,300*;" is longer than any that fits a platter. */
+    /** 20 files of at most 14 bytes, such as "19:9,100,150*;". */
     private static final int MOST_OUTPUT = 280;
 
     private static final int MOVE = 0;
