@@ -998,6 +998,11 @@ public final class PlainJukebox {
         return in(i, order) ? order.get(i) : NO_INDEX;
     }
 
+    /** All of batchPlatter() at once, for a batch that can be served. */
+    List<Integer> batchOrder() {
+        return box.copy().serve();
+    }
+
     public int oneByOneTime() {
         int problem = batchProblem(1);
         if (problem != 0) {

@@ -1,3 +1,5 @@
+import java.util.List;
+
 /** For each promise of the document: ordinary inputs, the edges that it names, and wrong inputs. */
 public final class PromisesTest {
     private static final int NO_INDEX = -1000001;
@@ -178,6 +180,9 @@ public final class PromisesTest {
         String longest = "platter 0 300 9;bad 0 299;file abcdefgh 300 0;";
         due(3, "load of 900 bytes", loadText(x, longest + repeat(" ", 900 - longest.length())), 1);
         due(3, "remappedSectors(0)", x.remappedSectors(0), 1);
+        due(3, "load of names that are nearly the same", loadText(x, "platter 0 300 0;file a 1 0;file aa 1 0;"
+                + "file aaa 1 0;file ab 1 0;file ba 1 0;file z 1 0;file za 1 0;file az 1 0;file aaaaaaaa 1 0;"
+                + "file aaaaaaab 1 0;file baaaaaaa 1 0;file files 1 0;file clos 1 0;"), 13);
         String eightSessions = "platter 0 300 0;" + eight("file # 1 0;close 0;");
         due(3, "load of 8 sessions", loadText(x, eightSessions), 8);
         due(3, "load of a 9th", loadText(x, eightSessions + "file z 1 0;"), BAD_TEXT);
@@ -279,6 +284,7 @@ public final class PromisesTest {
         error(x, "platter 3 10 0;platter 3 10 0;", 4, 23);
         error(x, "platter 0 10 0;bad 0 3;bad 0 3;", 4, 29);
         error(x, "platter 0 10 0;file a 1 0;file a 1 0;", 4, 31);
+        error(x, "platter 0 10 0;file abcdefgh 1 0;file abcdefg 1 0;file abcdefgh 1 0;", 4, 55);
         error(x, "slots 4;slots 4;", 5, 8);
         error(x, "time 1 1 1 1 1;slots 4;", 5, 15);
         String drives = repeat("drive 0;", 4);
@@ -781,6 +787,9 @@ public final class PromisesTest {
         due(45, "markBad of a 21st", x.markBad(2, 100), FULL);
         due(45, "markBad of one of the 20", x.markBad(2, 290), UNCHANGED);
         due(45, "markBad of no sector", x.markBad(2, 300), NO_INDEX);
+        x.undo();
+        due(45, "markBad of another one after undo()", x.markBad(2, 100), 3);
+        due(45, "markBad of a 21st after undo()", x.markBad(2, 101), FULL);
     }
 
     private static void moveHome() {
@@ -1041,14 +1050,20 @@ public final class PromisesTest {
             }
             due(53, "batchTime() of ten platters", x.batchTime(), plain.batchTime());
             due(54, "batchExchanges() of ten platters", x.batchExchanges(), 10);
-            for (int place = 0; place < 10; place += 3) {
-                due(55, "batchPlatter(" + place + ") of ten", x.batchPlatter(place), plain.batchPlatter(place));
+            List<Integer> order = plain.batchOrder();
+            for (int place = 0; place < 10; place++) {
+                due(55, "batchPlatter(" + place + ") of ten", x.batchPlatter(place), order.get(place));
             }
             due(55, "batchPlatter(10) of ten", x.batchPlatter(10), NO_INDEX);
             x.setTimes(0, 1, 4, 0, 1);
             for (int place = 0; place < 10; place++) {
                 due(55, "batchPlatter(" + place + "), all orders take the same", x.batchPlatter(place), place);
             }
+            int free = x.batchTime();
+            x.undo();
+            due(53, "batchTime() after undo()", x.batchTime(), plain.batchTime());
+            due(53, "batchTime() without MOVE", free, 10 * 4 + 9 * 4 + 2);
+            x.setTimes(0, 1, 4, 0, 1);
             due(50, "serveBatch() of ten platters", x.serveBatch(), 10 * 4 + 9 * 4 + 2);
             due(50, "platterInDrive(0)", x.platterInDrive(0), 9);
         }
