@@ -1379,6 +1379,9 @@ public final class OpticalJukebox {
             int left = state.awayPlatters(NONE);
             drive = state.driveAfterReading(NONE);
             orderLength = 0;
+            if (!state.hasDrive(drive)) {
+                return;
+            }
             int time = leastTime(state, drive, left);
             int inDrive = NONE;
             for (int place = 0; place < MOST_PLATTERS && left != 0; place++) {
