@@ -1360,8 +1360,11 @@ public final class OpticalJukebox {
         final int[] order = new int[MOST_PLATTERS];
         int orderLength;
         int drive = NONE;
+        /**
+         * The drive for which the table holds. It has all sets of the requested platters that are
+         * in no drive, so it serves the batch without one of its requests, too.
+         */
         private int tableDrive = NONE;
-        private int tableSet;
 
         /** Must be told whenever the jukebox changes, as the table is kept between calls. */
         void forgetTable() {
@@ -1420,11 +1423,10 @@ public final class OpticalJukebox {
             if (set == 0 || !state.hasDrive(intoDrive)) {
                 return 0;
             }
-            if (tableDrive != intoDrive || (set & ~tableSet) != 0) {
+            if (tableDrive != intoDrive) {
                 fillSwap(state, intoDrive);
-                fillRest(set);
+                fillRest(state.awayPlatters(NONE));
                 tableDrive = intoDrive;
-                tableSet = set;
             }
             int least = Integer.MAX_VALUE;
             for (int p = 0; p < MOST_PLATTERS; p++) {

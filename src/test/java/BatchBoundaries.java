@@ -107,6 +107,53 @@ final class BatchBoundaries {
         Checks.due("exchanges()", x.exchanges(), 10);
     }
 
+    @Sentence("Returns the time that serving the batch would take now")
+    static void promise53_oneRequest() {
+        OpticalJukebox x = requesting(Checks.THREE, 0);
+        Checks.due("batchTime()", x.batchTime(), 15 + 2 * 4);
+        Checks.due("batchExchanges()", x.batchExchanges(), 1);
+        Checks.due("oneByOneTime()", x.oneByOneTime(), 15 + 2 * 4);
+    }
+
+    /** What was planned before a change is not answered after it. */
+    @Sentence("Returns the time that serving the batch would take now")
+    static void promise53_afterEachChange() {
+        OpticalJukebox x = requesting(Checks.THREE, 2, 0, 1);
+        int before = x.batchTime();
+        x.setTimes(3, 3, 7, 4, 5);
+        int dearer = x.batchTime();
+        Checks.due("batchTime() with a dearer MOVE", dearer > before ? 1 : 0, 1);
+        Checks.due("serveBatch()", x.serveBatch(), dearer);
+        x.undo();
+        x.undo();
+        Checks.due("batchTime() after undo()", x.batchTime(), before);
+        x.moveHome(1, 2);
+        int nearer = x.batchTime();
+        Checks.due("batchTime() with a nearer home", nearer < before ? 1 : 0, 1);
+        Checks.due("leastTimeWithoutOne() is not more", x.leastTimeWithoutOne() <= nearer ? 1 : 0, 1);
+        x.undo();
+        Checks.due("batchTime() after undo()", x.batchTime(), before);
+        Checks.loadText(x, Checks.THREE.replace("time 2 3 7 4 5;", "time 3 3 7 4 5;"));
+        x.request(2);
+        x.request(0);
+        x.request(1);
+        Checks.due("batchTime() after a load", x.batchTime(), dearer);
+    }
+
+    /** No edit lies between the load and the question, as the undone edit was made before it. */
+    @Sentence("Returns the time that serving the batch would take now")
+    static void promise53_afterAnUndo() {
+        OpticalJukebox x = requesting(Checks.THREE, 2, 0, 1);
+        int before = x.batchTime();
+        x.setTimes(9, 3, 7, 4, 5);
+        int dearer = x.batchTime();
+        x.undo();
+        Checks.due("batchTime() after undo()", x.batchTime(), before);
+        Checks.due("batchExchanges() after undo()", x.batchExchanges(), 3);
+        x.setTimes(9, 3, 7, 4, 5);
+        Checks.due("batchTime() once more", x.batchTime(), dearer);
+    }
+
     @Sentence("The order of these platters is the one with the least time for all movements and spin-ups")
     static void promise53_theLeastTime() {
         // the picker is at 0: 8 first costs 8 to 0 later, 0 first ends at 8
@@ -210,6 +257,17 @@ final class BatchBoundaries {
         Checks.due("clock()", x.clock(), sum);
     }
 
+    @Sentence("Returns the time that reading the requested files one by one")
+    static void promise56_theClockHasRunBefore() {
+        OpticalJukebox x = requesting(Checks.THREE, 0, 2);
+        x.read(1);
+        x.read(0);
+        int clock = x.clock();
+        int time = x.oneByOneTime();
+        Checks.due("the time of reading them", x.read(0) + x.read(2), time);
+        Checks.due("clock()", x.clock(), clock + time);
+    }
+
     // ---- promise 57
 
     @Sentence("NOT_FOUND if the batch has fewer than two requests; NO_DRIVE")
@@ -256,6 +314,52 @@ final class BatchBoundaries {
     }
 
     @Sentence("Returns the smallest time that serving the batch would take if one of its requests was dropped")
+    static void promise57_eachPlatterRequestedOnce() {
+        for (int first = 0; first < 10; first++) {
+            OpticalJukebox x = Checks.of(ten("1 0 0 0 0"));
+            for (int n = 0; n < 10; n++) {
+                x.request((first + n) % 10);
+            }
+            int got = x.leastTimeWithoutOne();
+            int least = Checks.MOST;
+            for (int r = 0; r < 10; r++) {
+                x.dropRequest(r);
+                least = Math.min(least, x.batchTime());
+                x.undo();
+            }
+            Checks.due("leastTimeWithoutOne() of ten", got, least);
+        }
+    }
+
+    /** With full drives, what is dropped decides both the drive and the platters that are left. */
+    @Sentence("Returns the smallest time that serving the batch would take if one of its requests was dropped")
+    static void promise57_drivesAndPlattersDecide() {
+        String text = "slots 24;drive 2;drive 20;time 1 0 0 0 0;" + "platter 0 10 0;platter 23 10 0;platter 5 10 0;platter 18 10 0;"
+                + "platter 9 10 0;" + "file a 1 0;close 0;file b 1 1;close 1;file c 1 2;close 2;file d 1 3;close 3;file e 1 4;close 4;";
+        int[][] batches = {{0, 2, 3, 4}, {2, 3, 4, 0}, {1, 2, 3, 4}, {2, 0, 3}, {3, 1, 4, 0}, {4, 3, 2, 1, 0}, {2, 2, 1, 3}};
+        for (int[] files : batches) {
+            for (int used = 0; used < 2; used++) {
+                OpticalJukebox x = Checks.of(text);
+                x.mount(0);
+                x.mount(1);
+                x.read(used);
+                for (int file : files) {
+                    x.request(file);
+                }
+                int got = x.leastTimeWithoutOne();
+                int least = Checks.MOST;
+                for (int r = 0; r < files.length; r++) {
+                    x.dropRequest(r);
+                    least = Math.min(least, x.serveBatch());
+                    x.undo();
+                    x.undo();
+                }
+                Checks.due("leastTimeWithoutOne()", got, least);
+            }
+        }
+    }
+
+    @Sentence("Returns the smallest time that serving the batch would take if one of its requests was dropped")
     static void promise57_theDroppedOneDecidesTheDrive() {
         OpticalJukebox x = Checks.of("slots 10;drive 1;drive 8;time 1 0 0 0 0;platter 0 20 2;platter 4 50 0;platter 9 30 1;"
                 + "file a 2 0;close 0;file b 3 1;close 1;file c 5 2;close 2;");
@@ -288,13 +392,13 @@ final class BatchBoundaries {
 
     @Sentence({"of all slots that are not the home slot of another platter", "of several the lowest number"})
     static void promise58_ownHomeAndTheHomesOfOthers() {
-        OpticalJukebox x = Checks.of("slots 4;drive 2;platter 2 10 0;platter 1 10 0;platter 0 10 0;platter 3 10 0;");
-        Checks.due("nearestHome(0), its own", x.nearestHome(0), 2);
+        OpticalJukebox x = Checks.of("slots 4;drive 3;platter 3 10 0;platter 1 10 0;platter 0 10 0;platter 2 10 0;");
+        Checks.due("nearestHome(0), its own", x.nearestHome(0), 3);
         Checks.due("nearestHome(1), no other is free", x.nearestHome(1), 1);
         Checks.due("nearestHome(2), no other is free", x.nearestHome(2), 0);
-        Checks.due("nearestHome(3), no other is free", x.nearestHome(3), 3);
+        Checks.due("nearestHome(3), no other is free", x.nearestHome(3), 2);
         x.mount(0);
-        Checks.due("nearestHome(1), 2 is a home still", x.nearestHome(1), 1);
+        Checks.due("nearestHome(1), 3 is a home still", x.nearestHome(1), 1);
         OpticalJukebox y = Checks.of("slots 24;drive 0;drive 23;platter 10 10 0;");
         Checks.due("nearestHome(0): 0 and 23 are as near", y.nearestHome(0), 0);
         y = Checks.of("slots 24;drive 23;platter 0 10 0;");

@@ -606,6 +606,32 @@ final class EditBoundaries {
         Checks.due("platterInDrive(0)", x.platterInDrive(0), 0);
     }
 
+    @Sentence("the drive is chosen as for a platter that is in no drive")
+    static void promise50_allDrivesAreFullAndNoneIsRead() {
+        OpticalJukebox x = Checks.of(Checks.THREE);
+        x.mount(0);
+        x.mount(2);
+        x.request(1);
+        x.serveBatch();
+        Checks.due("platterInDrive(0), the older one", x.platterInDrive(0), 1);
+        Checks.due("platterInDrive(1)", x.platterInDrive(1), 2);
+    }
+
+    @Sentence("the drive is chosen as for a platter that is in no drive")
+    static void promise50_allDrivesAreReadBefore() {
+        OpticalJukebox x = Checks.of(Checks.THREE);
+        x.mount(0);
+        x.mount(2);
+        x.read(0);
+        x.request(2);
+        x.request(1);
+        x.request(0);
+        Checks.due("chosenDrive(1) before", x.chosenDrive(1), 1);
+        x.serveBatch();
+        Checks.due("platterInDrive(0), which was read first", x.platterInDrive(0), 1);
+        Checks.due("platterInDrive(1)", x.platterInDrive(1), 2);
+    }
+
     // ---- promise 51
 
     @Sentence("NOT_FOUND if there is none")
@@ -672,6 +698,88 @@ final class EditBoundaries {
             Checks.due("undo() of edit " + edit, x.undo(), 3);
             Checks.same("after undo() of edit " + edit, Checks.picture(x), before);
         }
+    }
+
+    /** Every limit of the document at once: an edit and its undo find room for all. */
+    @Sentence("Every successful edit can be undone")
+    static void promise51_aJukeboxAtItsLimits() {
+        OpticalJukebox x = Checks.of("slots 24;" + "drive 3;".repeat(4) + Checks.numbered(14, 10, "platter # 300 9;")
+                + Checks.numbered(280, 9, "bad 0 #;bad 9 #;") + "bad 5 0;bad 5 299;");
+        for (int f = 0; f < 20; f++) {
+            Checks.due("create " + f, x.create(1, f % 10), f);
+        }
+        for (int n = 0; n < 10; n++) {
+            x.closeSession(n);
+        }
+        for (int f = 0; f < 16; f++) {
+            x.request(f);
+        }
+        for (int n = 0; n < 20; n++) {
+            Checks.due("write " + n, x.write(16 + n % 4, 1, n % 10) < 0 ? 1 : 0, 0);
+        }
+        Checks.due("versionCount(19)", x.versionCount(19), 6);
+        String before = Checks.picture(x);
+        Checks.due("setTimes", x.setTimes(2, 2, 2, 2, 2), 12);
+        Checks.due("undo()", x.undo(), 15);
+        Checks.same("after undo()", Checks.picture(x), before);
+        Checks.due("platterInSlot(23)", x.platterInSlot(23), Checks.NOT_FOUND);
+        Checks.due("platterInSlot(24)", x.platterInSlot(24), Checks.NO_INDEX);
+        Checks.due("sectorKind(9, 288)", x.sectorKind(9, 288), 10);
+        Checks.due("requestedFile(15)", x.requestedFile(15), 15);
+        Checks.due("serveBatch()", x.serveBatch() < 0 ? 1 : 0, 0);
+        Checks.due("undo() of the batch", x.undo(), 15);
+        Checks.same("after undo() of the batch", Checks.picture(x), before);
+    }
+
+    @Sentence("Undoes the latest edit that is not undone yet")
+    static void promise51_remappedSectorsAndSlotsStay() {
+        OpticalJukebox x = Checks.of("slots 24;drive 0;platter 23 20 3;bad 0 0;bad 0 1;file a 4 0;close 0;");
+        for (int n = 0; n < 3; n++) {
+            x.setTimes(0, 0, 0, n, n);
+            x.setTimes(0, 0, 0, 7, 9);
+            x.undo();
+        }
+        Checks.due("readTime(0), two sectors are remapped", x.readTime(0), 2 * 6);
+        Checks.due("remappedSectors(0)", x.remappedSectors(0), 2);
+        Checks.due("sparesLeft(0)", x.sparesLeft(0), 1);
+        Checks.due("platterInSlot(23)", x.platterInSlot(23), 0);
+        Checks.due("sectorKind(0, 1)", x.sectorKind(0, 1), 11);
+    }
+
+    /** A state that was left by undo() is used again, and what it had more must not be seen. */
+    @Sentence("Undoes the latest edit that is not undone yet")
+    static void promise51_whatWasUndoneIsGone() {
+        OpticalJukebox x = Checks.of(Checks.THREE);
+        x.create(3, 0);
+        x.markBad(0, 5);
+        x.undo();
+        x.undo();
+        String before = Checks.picture(x);
+        x.setTimes(1, 1, 1, 1, 1);
+        x.undo();
+        Checks.same("after undo()", Checks.picture(x), before);
+        Checks.due("fileOfSector(0, 4)", x.fileOfSector(0, 4), Checks.NOT_FOUND);
+        Checks.due("staleSectors(0)", x.staleSectors(0), 0);
+        Checks.due("markBad(0, 4)", x.markBad(0, 4), 0);
+        Checks.due("create(3, 0) once more", x.create(3, 0), 3);
+        Checks.due("fileState(3), not damaged", x.fileState(3), 2);
+        Checks.due("sectorKind(0, 5), not bad", x.sectorKind(0, 5), 1);
+    }
+
+    @Sentence("the drive that was used least recently")
+    static void promise51_theOrderOfUseIsUndone() {
+        OpticalJukebox x = Checks.of(Checks.THREE);
+        x.mount(0);
+        x.mount(2);
+        x.read(0);
+        x.undo();
+        Checks.due("chosenDrive(1) after undo()", x.chosenDrive(1), 0);
+        x.setTimes(1, 1, 1, 1, 1);
+        x.undo();
+        x.mount(0);
+        Checks.due("chosenDrive(1) after a new use", x.chosenDrive(1), 1);
+        x.mount(2);
+        Checks.due("chosenDrive(1) after another one", x.chosenDrive(1), 0);
     }
 
     @Sentence("A successful load() forgets all edits")

@@ -136,6 +136,22 @@ final class PlatterBoundaries {
         Checks.due("sessionSize(2, 0) without a lead-out", x.sessionSize(2, 0), 300);
     }
 
+    @Sentence("Returns the number of sectors of a session of a platter (its lead-out included)")
+    static void promise21_aSessionThatWasUndoneOrLoadedBefore() {
+        OpticalJukebox x = Checks.of(SESSIONS);
+        for (int n = 0; n < 3; n++) {
+            x.create(7, 2);
+            x.undo();
+        }
+        x.create(2, 2);
+        Checks.due("sessionSize(2, 0) after undo()", x.sessionSize(2, 0), 2);
+        for (int n = 0; n < 3; n++) {
+            Checks.loadText(x, SESSIONS);
+            Checks.due("sessionSize(0, 0) after another load", x.sessionSize(0, 0), 7);
+            Checks.due("sessionSize(0, 1) after another load", x.sessionSize(0, 1), 5);
+        }
+    }
+
     // ---- promise 22
 
     @Sentence("NO_INDEX")
@@ -332,6 +348,20 @@ final class PlatterBoundaries {
         Checks.due("bestPlatter(6), one is bad and one is too small", x.bestPlatter(6), Checks.NOT_FOUND);
         OpticalJukebox eight = Checks.of("drive 0;platter 0 300 0;" + Checks.named('a', 8, "file # 1 0;close 0;"));
         Checks.due("bestPlatter(1) after 8 sessions", eight.bestPlatter(1), Checks.NOT_FOUND);
+    }
+
+    @Sentence("Returns the platter on which a version of that size can be written")
+    static void promise27_platterNumbersThatAreNotThere() {
+        OpticalJukebox x = Checks.of("drive 0;" + Checks.numbered(1, 10, "platter # 20 0;"));
+        Checks.due("bestPlatter(20) of ten", x.bestPlatter(20), 0);
+        for (int n = 0; n < 2; n++) {
+            Checks.loadText(x, "drive 0;platter 9 20 0;platter 0 20 0;platter 1 300 0;");
+        }
+        for (int n = 0; n < 2; n++) {
+            Checks.loadText(x, "drive 0;platter 9 20 0;");
+            Checks.due("bestPlatter(20) of one", x.bestPlatter(20), 0);
+            Checks.due("bestPlatter(21) of one", x.bestPlatter(21), Checks.NOT_FOUND);
+        }
     }
 
     @Sentence("the smallest mountTime()")

@@ -283,16 +283,73 @@ final class TextBoundaries {
         Checks.due("platterInDrive(0)", x.platterInDrive(0), Checks.NOT_FOUND);
     }
 
+    /** The rows of a state are used again by later loads, so each of several loads must begin anew. */
     @Sentence("At first all platters are in their home slots, the picker is at position 0, and the clock is 0")
-    static void promise03_aLoadBeginsAnew() {
+    static void promise03_eachLoadBeginsAnew() {
+        String fresh = Checks.picture(Checks.of(Checks.THREE));
         OpticalJukebox x = Checks.of(Checks.THREE);
-        x.read(2);
-        x.mount(1);
+        for (int n = 0; n < 3; n++) {
+            x.read(2);
+            x.mount(1);
+            x.write(0, 3, 0);
+            x.markBad(0, 5);
+            x.markBad(2, 0);
+            x.create(4, 2);
+            x.request(1);
+            x.setTimes(9, 9, 9, 9, 9);
+            Checks.due("load " + n, Checks.loadText(x, Checks.THREE), 3);
+            Checks.same("after load " + n, Checks.picture(x), fresh);
+        }
+    }
+
+    @Sentence({"number of bytes of the text, 0 to the number of bytes in the buffer", "without a slots statement there are 12 slots"})
+    static void promise03_anEmptyTextAfterAnother() {
+        OpticalJukebox x = Checks.of("slots 24;drive 3;drive 4;" + TWENTY_FILES);
         x.request(0);
-        x.setTimes(9, 9, 9, 9, 9);
+        x.load(0);
+        x.load(0);
+        x.load(0);
+        Checks.due("platterInSlot(12)", x.platterInSlot(12), Checks.NO_INDEX);
+        Checks.due("platterInDrive(0)", x.platterInDrive(0), Checks.NO_INDEX);
+        Checks.due("homeSlot(0)", x.homeSlot(0), Checks.NO_INDEX);
+        Checks.due("versionCount(0)", x.versionCount(0), Checks.NO_INDEX);
+        Checks.due("requestedFile(0)", x.requestedFile(0), Checks.NO_INDEX);
+    }
+
+    @Sentence("there are at most 20 bad sectors in the jukebox")
+    static void promise03_twentyBadSectorsInEachText() {
+        OpticalJukebox x = new OpticalJukebox();
+        for (int n = 0; n < 4; n++) {
+            Checks.due("load " + n, Checks.loadText(x, TWENTY_BAD), 0);
+            Checks.due("sectorKind(0, 9)", x.sectorKind(0, 9), 0);
+        }
+        Checks.due("load", Checks.loadText(x, "platter 0 30 0;"), 0);
+        Checks.due("sectorKind(0, 10) of a text without bad sectors", x.sectorKind(0, 10), 0);
+    }
+
+    @Sentence("A version is damaged if one of its sectors became bad after it had been written")
+    static void promise03_noDamageFromTheTextBefore() {
+        OpticalJukebox x = new OpticalJukebox();
+        for (int n = 0; n < 4; n++) {
+            Checks.loadText(x, "platter 0 30 0;file a 3 0;bad 0 1;close 0;");
+            Checks.due("fileState(0) of the damaged one", x.fileState(0), 1);
+            if (n % 2 == 0) {
+                Checks.loadText(x, "platter 0 30 0;file a 3 0;close 0;");
+                Checks.due("fileState(0) of the other one", x.fileState(0), 0);
+            }
+        }
+        Checks.loadText(x, "platter 0 30 0;file a 3 0;close 0;");
+        Checks.loadText(x, "platter 0 30 0;file a 3 0;close 0;");
+        Checks.due("fileState(0)", x.fileState(0), 0);
+    }
+
+    /** What a wrong text left behind is not seen by the next text. */
+    @Sentence("BAD_TEXT if the text is not legal (the current jukebox stays)")
+    static void promise03_aLegalTextAfterAWrongOne() {
+        OpticalJukebox x = new OpticalJukebox();
+        Checks.due("load", Checks.loadText(x, TWENTY_FILES.replace("platter", "drive 1;drive 2;platter") + "x"), Checks.BAD_TEXT);
         Checks.due("load", Checks.loadText(x, Checks.THREE), 3);
-        Checks.same("after the second load", Checks.picture(x), Checks.picture(Checks.of(Checks.THREE)));
-        Checks.due("chosenDrive(2)", x.chosenDrive(2), 0);
+        Checks.same("after the wrong text", Checks.picture(x), Checks.picture(Checks.of(Checks.THREE)));
     }
 
     // ---- promise 3: tokens
@@ -372,6 +429,17 @@ final class TextBoundaries {
         }
         Checks.legal("platter 0 10 0;file slot 1 0;file drives 1 0;file tim 1 0;file platters 1 0;file ba 1 0;"
                 + "file files 1 0;file closed 1 0;file badd 1 0;", 8);
+    }
+
+    @Sentence("The words slots, drive, time, platter, bad, file and close are reserved")
+    static void promise03_wordsThatDifferByALetter() {
+        for (String word : new String[] {"slots", "drive", "time", "platter", "bad", "file", "close"}) {
+            for (int at = 0; at < word.length(); at++) {
+                String other = word.substring(0, at) + "x" + word.substring(at + 1);
+                Checks.error(other + " 1", 2, 0);
+                Checks.legal("platter 0 10 0;file " + other + " 1 0;", 1);
+            }
+        }
     }
 
     @Sentence("no two files have the same name")
