@@ -251,6 +251,12 @@ final class EditBoundaries {
         Checks.due("create(1, 0) of the 20th after undo()", x.create(1, 0), 19);
     }
 
+    @Sentence("FULL if there are 20 files or 40 versions; NO_DRIVE")
+    static void promise43_twentyFilesAndNoDrives() {
+        OpticalJukebox x = Checks.of("platter 0 300 0;" + Checks.named('a', 20, "file # 1 0;"));
+        refused(x, 0, Checks.FULL, List.of(y -> y.create(1, 0), y -> y.create(300, 0)));
+    }
+
     @Sentence("FULL if there are 20 files or 40 versions")
     static void promise43_fortyVersions() {
         OpticalJukebox x = with40Versions();
@@ -372,6 +378,30 @@ final class EditBoundaries {
         Checks.due("markBad(2, 4), the last sector of a version", x.markBad(2, 4), 3);
         Checks.due("undo()", x.undo(), 8);
         Checks.due("fileState(2)", x.fileState(2), 0);
+    }
+
+    @Sentence("@return how many versions are damaged in the jukebox now")
+    static void promise45_damageAmong40Versions() {
+        OpticalJukebox x = with40Versions();
+        Checks.due("markBad(0, 40) behind the last version", x.markBad(0, 40), 0);
+        Checks.due("markBad(0, 39) of the last version", x.markBad(0, 39), 1);
+        for (int s = 0; s < 18; s++) {
+            Checks.due("markBad(0, " + s + ")", x.markBad(0, s), s + 2);
+        }
+        Checks.due("markBad of a 21st", x.markBad(0, 18), Checks.FULL);
+    }
+
+    @Sentence("@return how many versions are damaged in the jukebox now")
+    static void promise45_damageThatWasUndone() {
+        OpticalJukebox x = Checks.of(Checks.THREE);
+        x.create(3, 0);
+        Checks.due("markBad(0, 4)", x.markBad(0, 4), 1);
+        x.undo();
+        x.undo();
+        x.setTimes(1, 1, 1, 1, 1);
+        x.setTimes(2, 2, 2, 2, 2);
+        x.undo();
+        Checks.due("markBad(0, 4) without the version", x.markBad(0, 4), 0);
     }
 
     // ---- promise 46
